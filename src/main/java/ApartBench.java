@@ -743,8 +743,6 @@ public final class ApartBench {
             for (int i = 0; i < MOST_CASES; i++) {
                 Arrays.fill(proofs[i], NONE);
             }
-            Arrays.fill(firstDay, 0);
-            Arrays.fill(stops, 0);
         }
 
         int gossipTenths() {
@@ -1153,14 +1151,17 @@ public final class ApartBench {
             if (b >= '0' && b <= '9') {
                 return NUMBER;
             }
-            return ";()+-*/<=".indexOf((char) (b & 0xff)) >= 0 ? SIGN : NO_TOKEN;
+            switch (b) {
+                case ';': case '(': case ')': case '+': case '-': case '*': case '/': case '<': case '=':
+                    return SIGN;
+                default:
+                    return NO_TOKEN;
+            }
         }
     }
 
     /** Who goes where, who says what, whom news reaches, who meets whom, who is guilty: as it is, or tried. */
     private static final class Court {
-        private static final int LAST_DAY = LAST_START + 9 * (MOST_STOPS - 1);
-
         private Land land;
         private Bench bench;
         int deafs;
@@ -1233,18 +1234,31 @@ public final class ApartBench {
                 Arrays.fill(saidGuilty[cause], NONE);
             }
             Arrays.fill(nextStop, 0);
-            for (int day = 0; day <= LAST_DAY; day++) {
-                for (int judge = 0; judge < land.judges; judge++) {
+            for (int turn = 0; turn < MOST_JUDGES * MOST_STOPS; turn++) {
+                int judge = nextWhoComes();
+                if (judge != NONE) {
                     int i = nextStop[judge];
-                    if (i < land.stops[judge] && stopDay[judge][i] == day) {
-                        nextStop[judge]++;
-                        hearIn(stopTown[judge][i], judge, day);
-                    }
+                    nextStop[judge]++;
+                    hearIn(stopTown[judge][i], judge, stopDay[judge][i]);
                 }
             }
             for (int cause = 0; cause < land.cases; cause++) {
                 reached[cause] = reachedByAny(cause);
             }
+        }
+
+        /** Whose next stop is on the least day, of like ones the least judge; NONE: all have gone round. */
+        private int nextWhoComes() {
+            int next = NONE;
+            int least = 0;
+            for (int judge = 0; judge < land.judges; judge++) {
+                int i = nextStop[judge];
+                if (i < land.stops[judge] && (next == NONE || stopDay[judge][i] < least)) {
+                    next = judge;
+                    least = stopDay[judge][i];
+                }
+            }
+            return next;
         }
 
         private void hearIn(int town, int judge, int day) {
@@ -1409,6 +1423,7 @@ public final class ApartBench {
         /** The three who make it guilty, as bits, if more are reached and these are deaf; 0: there are none. */
         int trioWith(int cause, int moreReached, int deafOnes) {
             int voidOnes = (reached[cause] | moreReached) & ~deafOnes;
+            int able = whoSaidGuilty(cause) & ~voidOnes;
             int best = 0;
             int bestDay = NONE;
             for (int a = 0; a < land.judges; a++) {
@@ -1416,7 +1431,7 @@ public final class ApartBench {
                     for (int c = b + 1; c < land.judges; c++) {
                         int bits = 1 << a | 1 << b | 1 << c;
                         int day = latestDay(cause, a, b, c);
-                        if ((bits & voidOnes) == 0 && (best == 0 || day < bestDay) && agree(cause, a, b, c)
+                        if ((bits & ~able) == 0 && (best == 0 || day < bestDay) && areInThreeTowns(cause, a, b, c)
                                 && areApart(a, b, day) && areApart(a, c, day) && areApart(b, c, day)) {
                             best = bits;
                             bestDay = day;
@@ -1427,15 +1442,24 @@ public final class ApartBench {
             return best;
         }
 
+        private int whoSaidGuilty(int cause) {
+            int bits = 0;
+            for (int judge = 0; judge < land.judges; judge++) {
+                if (saidGuilty[cause][judge] == 1) {
+                    bits |= 1 << judge;
+                }
+            }
+            return bits;
+        }
+
         private int latestDay(int cause, int a, int b, int c) {
             int[] days = saidDay[cause];
             return Math.max(days[a], Math.max(days[b], days[c]));
         }
 
-        private boolean agree(int cause, int a, int b, int c) {
-            int[] says = saidGuilty[cause];
+        private boolean areInThreeTowns(int cause, int a, int b, int c) {
             int[] at = saidTown[cause];
-            return says[a] == 1 && says[b] == 1 && says[c] == 1 && at[a] != at[b] && at[a] != at[c] && at[b] != at[c];
+            return at[a] != at[b] && at[a] != at[c] && at[b] != at[c];
         }
 
         private boolean areApart(int a, int b, int day) {

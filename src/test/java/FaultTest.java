@@ -15,6 +15,7 @@ public final class FaultTest {
         limits();
         towns();
         expressions();
+        cutOff();
         stateStays();
         for (int run = 1; run <= 60000; run++) {
             againstSecondReader(new Checks.Dice(run));
@@ -58,6 +59,9 @@ public final class FaultTest {
         fault("5", 1, 0);
         fault("12345", 1, 0);
         fault("inn;", 1, 0);
+        fault("xown;", 1, 0);
+        fault("towx;", 1, 0);
+        fault("judges 0 0 0;", 1, 0);
         fault("town inn inn;", 1, 9);
         fault("road", 1, 4);
         fault("road ;", 1, 5);
@@ -156,6 +160,11 @@ public final class FaultTest {
         fault("law 1+", 1, 6);
         fault("law foo;", 3, 4);
         fault("law or;", 3, 4);
+        fault("law z;", 3, 4);
+        fault("law a;", 3, 4);
+        fault("law {;", 1, 4);
+        fault("law `;", 1, 4);
+        fault("law :;", 1, 4);
         fault("law 1 and or;", 3, 10);
         fault("law 1+not 2;", 3, 6);
         fault("law 1<not 2;", 3, 6);
@@ -191,6 +200,18 @@ public final class FaultTest {
         fault("law not;", 1, 7);
         fault("law notnot 1;", 3, 4);
         fault("law not not foo;", 3, 12);
+    }
+
+    private static void cutOff() {
+        String text = "town;law 12345678;  ";
+        int[] faults = {0, 1, 1, 1, 1, 0, 1, 1, 1, 1, 1, 1, 1, 1, 2, 2, 2, 2, 2, 2, 2};
+        int[] places = {-1, 0, 0, 0, 4, -1, 5, 5, 8, 9, 10, 11, 12, 13, 9, 9, 9, 9, 9, 9, 9};
+        for (int n = 0; n <= 20; n++) {
+            ApartBench x = new ApartBench();
+            x.feed(0x746f776e, 0x3b6c6177, 0x20313233, 0x34353637, 0x383b2020);
+            Checks.due("the first " + n + " of " + text, x.land(n), faults[n]);
+            Checks.due("the place in the first " + n + " of " + text, x.fault(), places[n]);
+        }
     }
 
     private static void stateStays() {

@@ -106,6 +106,26 @@ public final class PromiseTest {
         due("P3 nothing at all is a land", x.land(0), 0);
         due("P4 no fault", x.fault(), -1);
         due("P3 no towns", x.count(0), 0);
+        landAfterLand();
+    }
+
+    /** Nothing of an older text, with a fault or not, is left in a later one. */
+    private static void landAfterLand() {
+        String old = "town inn;town;town;road 0 1 1;road 1 2 1;gossip 30;wise 7 7 2 1 0;case 0 9 1 9 2 9;law proof;";
+        ApartBench x = new ApartBench();
+        for (int i = 0; i < 4; i++) {
+            due("P3 the old text", Checks.tell(x, old), 0);
+            due("P3 with a fault", Checks.tell(x, old + "x"), 1);
+            due("P3 a later text", Checks.tell(x, "town;town;town;judge 1 0 0;case 0 4;case 1 5;"), 0);
+            due("P3 its gossip", x.count(2), 10);
+            due("P3 its inns", x.count(5), 0);
+            due("P3 its roads", x.far(0, 1, 0) * 10 + x.far(2, 1, 0), -11);
+            due("P3 its proofs", x.proof(0, 1) * 10 + x.proof(1, 1), -5);
+            due("P3 its judge", x.judge(0, 0) * 100 + x.judge(0, 3) * 10 + x.judge(0, 1), 11);
+            due("P3 it has no law", x.said(0, 0, 0), 0);
+            due("P3 its towns are not joined", Checks.tell(x, "town;town;town;judge 1 0 0 1;"), 6);
+            due("P3 a road, a law and a gossip again", Checks.tell(x, "town;town;road 0 1 1;gossip 2;law 1;"), 0);
+        }
     }
 
     private static void count() {
@@ -168,6 +188,11 @@ public final class PromiseTest {
         due("P9 below 0", x.where(0, -1), -1);
         due("P9 far", x.where(0, MAX_VALUE), -1);
         Checks.noSuch("P9 judge", () -> x.where(3, 0));
+        ApartBench last = Checks.told("town;town;road 0 1 9;judge 60 0 0 1 0 1 0 1 0;judge 60 0 0 1 0 1 0 1;case 0 9;");
+        due("P7 the last day of all", last.judge(0, 4), 114);
+        last.feast(0, 60, 99);
+        due("P11 heard on it", last.said(0, 0, 1), 114);
+        due("P11 not heard", last.said(0, 1, 1), -1);
         x.start(0, 10);
         due("P7 his day is another one", x.judge(0, 1), 10);
         due("P7 his last day too", x.judge(0, 4), 18);
@@ -228,7 +253,8 @@ public final class PromiseTest {
     private static void lawArithmetic() {
         String[] hold = {"1", "9999", "7-5-1=1", "20/3/2=3", "2+3*4=14", "(2+3)*4=20", "(1-8)/2=0-3", "5/0=0", "not 0",
             "not (0-1)=0", "2<3", "not 3<3", "0 or 5", "1 and 2", "(3 or 0)=1", "(3 and 2)=1", "(not 0)=1", "not not 7=7",
-            "(not not 7)=1", "1 or 0 and 0", "0-1 or 0", "9999*9999*22<0"};
+            "(not not 7)=1", "1 or 0 and 0", "0-1 or 0", "9999*9999*22<0",
+            "(2<3)=1", "(3=3)=1", "(4<3)=0", "(4=3)=0", "(not 5)=0"};
         for (String law : hold) {
             due("law " + law, says(law), 1);
         }
@@ -482,6 +508,7 @@ public final class PromiseTest {
         due("P22 it changes nothing for one apart", x.when(2, 0), 0);
         due("P22 and none is guilty", x.when(2, 1), 0);
         due("P22 nobody sets out", x.judge(1, 1), 60);
+        due("P22 on the last day alone", Checks.told(land.replace("0 1 5", "0 1 1")).when(0, 0), 60);
         Checks.noSuch("P22 what", () -> x.when(0, 2));
         Checks.noSuch("P22 judge", () -> x.when(3, 0));
     }
