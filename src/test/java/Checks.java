@@ -45,7 +45,7 @@ final class Checks {
         }
     }
 
-    private static String name(long answer) {
+    static String name(long answer) {
         if (answer == NO_SUCH_ELEMENT) {
             return "NoSuchElementException";
         }
