@@ -689,11 +689,11 @@ public final class PromiseTest {
 
     /** Two meet just in a year with a flood on day 12, a day wide or more, in their towns 0 and 1, not in 2. */
     private static void drawnByHand() {
-        ApartBench x = Checks.told("town;town;town;road 0 1 1;gossip 40;deaf 12 0 0;deaf 12 0 1;deaf 12 0 2;"
-                + "case 0 9 1 9 2 9;");
+        ApartBench x = new ApartBench();
         int[] of = {3, 30, 6};
         int dryInAll = 0;
         for (int seed = -100; seed < 100; seed++) {
+            x = Checks.told("town;town;town;road 0 1 1;gossip 40;deaf 12 0 0;deaf 12 0 1;deaf 12 0 2;case 0 9 1 9 2 9;");
             int dry = 0;
             int s = seed * 7654321;
             for (int year = 0; year < 40; year++) {
@@ -767,9 +767,9 @@ public final class PromiseTest {
     private static void oddNumbersThrowOnlyWhatIsPromised() {
         int[] odd = {-1, 0, 1, 2, 5, 9, 61, 100, MIN_VALUE, MAX_VALUE};
         for (String land : new String[] {"", APART, ROW, "town;judge 0 0 0;", "town;case 0 9;"}) {
-            ApartBench x = Checks.told(land);
             for (int a : odd) {
                 for (int b : odd) {
+                    ApartBench x = Checks.told(land);
                     for (int c : odd) {
                         three(x, a, b, c);
                     }
